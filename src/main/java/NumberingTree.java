@@ -610,8 +610,10 @@ public final class NumberingTree {
         }
 
         boolean isAbove(int upper, int lower) {
-            for (int steps = 1; steps < DEEPEST; steps++) {
-                if (ancestor(lower, steps) == upper) {
+            int reached = lower;
+            for (int steps = 1; steps < DEEPEST && reached != NONE; steps++) {
+                reached = parent(reached);
+                if (reached == upper) {
                     return true;
                 }
             }
@@ -668,7 +670,6 @@ public final class NumberingTree {
 
     /** The numbers of frozen paragraphs by group; they outlive the paragraphs. */
     private static final class Used {
-        private final Row usedLevels = new Row(MOST_PARAGRAPHS);
         private final Row usedGroups = new Row(MOST_PARAGRAPHS);
         private final Row usedNumbers = new Row(MOST_PARAGRAPHS);
         private int amount;
@@ -677,18 +678,17 @@ public final class NumberingTree {
             return amount;
         }
 
-        boolean contains(int level, int group, int number) {
+        boolean contains(int group, int number) {
             for (int i = 0; i < amount; i++) {
-                if (usedNumbers.at(i) == number && usedGroups.at(i) == group && usedLevels.at(i) == level) {
+                if (usedNumbers.at(i) == number && usedGroups.at(i) == group) {
                     return true;
                 }
             }
             return false;
         }
 
-        void include(int level, int group, int number) {
-            if (amount < MOST_PARAGRAPHS && !contains(level, group, number)) {
-                usedLevels.put(amount, level);
+        void include(int group, int number) {
+            if (amount < MOST_PARAGRAPHS && !contains(group, number)) {
                 usedGroups.put(amount, group);
                 usedNumbers.put(amount, number);
                 amount++;
@@ -698,8 +698,8 @@ public final class NumberingTree {
 
     /** The numbers and letters of paragraphs, kept and found by a walk. */
     private static final class Numbers {
-        /** A group is told by its level and its parent, NONE without one, or this where the level goes on. */
-        private static final int GROUP_OF_LEVEL = -2;
+        /** A level has one group that goes on, one without a parent, and one below each paragraph: 0, 1 and above. */
+        private static final int GROUPS_OF_LEVEL = MOST_PARAGRAPHS + 2;
         /** No number is taken but the skipped and the used ones, and each paragraph uses one at most. */
         private static final int MOST_TAKEN = GREATEST_SKIPPED + MOST_PARAGRAPHS;
         /** Stands for the number of the first frozen paragraph behind where there is none: they all are above 0. */
@@ -771,7 +771,7 @@ public final class NumberingTree {
                 int name = standing.nameAt(place);
                 if (mayBeFixed(name)) {
                     fixed.put(name, 1);
-                    used.include(standing.level(name), groups.at(name), number(name));
+                    used.include(groups.at(name), number(name));
                     found++;
                 }
             }
@@ -800,8 +800,9 @@ public final class NumberingTree {
         private void findGroups() {
             for (int place = 0; place < standing.amount(); place++) {
                 int name = standing.nameAt(place);
-                boolean goesOn = levels.goesOn(standing.level(name));
-                groups.put(name, goesOn ? GROUP_OF_LEVEL : standing.parent(name));
+                int level = standing.level(name);
+                int within = levels.goesOn(level) ? 0 : standing.parent(name) + 2;
+                groups.put(name, level * GROUPS_OF_LEVEL + within);
             }
         }
 
@@ -839,7 +840,7 @@ public final class NumberingTree {
         int nameAhead(int name) {
             for (int place = standing.place(name) - 1; place >= 0; place--) {
                 int other = standing.nameAt(place);
-                if (isOneGroup(name, other)) {
+                if (groups.at(other) == groups.at(name)) {
                     return other;
                 }
             }
@@ -849,15 +850,11 @@ public final class NumberingTree {
         private int limitBehind(int name) {
             for (int place = standing.place(name) + 1; place < standing.amount(); place++) {
                 int other = standing.nameAt(place);
-                if (isFixed(other) && isOneGroup(name, other)) {
+                if (isFixed(other) && groups.at(other) == groups.at(name)) {
                     return number(other);
                 }
             }
             return NO_LIMIT;
-        }
-
-        private boolean isOneGroup(int name, int other) {
-            return standing.level(name) == standing.level(other) && groups.at(name) == groups.at(other);
         }
 
         /** Answers the number of the one ahead again, and only then that number, if the paragraph gets a letter. */
@@ -868,14 +865,13 @@ public final class NumberingTree {
             }
             int level = standing.level(name);
             int group = groups.at(name);
-            for (int i = 0; i < MOST_TAKEN && isTaken(level, group, number); i++) {
+            for (int i = 0; i < MOST_TAKEN; i++) {
+                if (!levels.isSkipped(level, number) && !used.contains(group, number)) {
+                    break;
+                }
                 number++;
             }
             return limit != NO_LIMIT && number >= limit ? aheadNumber : number;
-        }
-
-        private boolean isTaken(int level, int group, int number) {
-            return levels.isSkipped(level, number) || used.contains(level, group, number);
         }
     }
 
@@ -904,8 +900,8 @@ public final class NumberingTree {
         }
 
         void append(char sign) {
-            if (length < signs.length) {
-                putSign(length, sign);
+            if (length >= 0 && length < signs.length) {
+                signs[length] = sign;
                 length++;
             }
         }

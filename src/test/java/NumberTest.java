@@ -22,6 +22,7 @@ public final class NumberTest {
         betweenFrozen();
         usedNumbers();
         groupsKeepTheirUsed();
+        allThatCanBeTaken();
         walkedSameAsKept();
         ahead();
         wrongInputs();
@@ -146,6 +147,13 @@ public final class NumberTest {
         next.skip(2, 1);
         next.startAt(1, 101);
         numbers("a number above 99 is not skipped for the next level", next, "1 101");
+        NumberingTree apart = Check.tree(4, 1, 2);
+        Check.same("skip(4, 99)", apart.skip(4, 99), 1);
+        Check.same("skip(1, 99)", apart.skip(1, 99), 1);
+        Check.same("skip(2, 1)", apart.skip(2, 1), 1);
+        apart.startAt(0, 99);
+        apart.startAt(1, 99);
+        numbers("the greatest number that is skipped", apart, "100 100 100.2");
         Check.refused("skip again", STATE, () -> skipped(2, 7), t -> t.skip(2, 7));
         Check.same("skip for another level", skipped(2, 7).skip(3, 7), 1);
         Check.refused("skip(0, 1)", ARGUMENT, NumberTest::small, t -> t.skip(0, 1));
@@ -200,6 +208,8 @@ public final class NumberTest {
         Check.refused("setGoingOn(5, true)", ARGUMENT, NumberTest::frozen, t -> t.setGoingOn(5, true));
         Check.refused("setGoingOn(2, true) with frozen ones", HELD, NumberTest::frozen,
                 t -> t.setGoingOn(2, true));
+        Check.refused("setGoingOn(1, true) with the first one frozen", HELD, () -> Check.frozenTree(1),
+                t -> t.setGoingOn(1, true));
         Check.refused("setGoingOn(1, false), as it is, with frozen ones", HELD, NumberTest::frozen,
                 t -> t.setGoingOn(1, false));
         Check.same("setGoingOn(3, true) with frozen ones of others", frozen().setGoingOn(3, true), false);
@@ -337,6 +347,39 @@ public final class NumberTest {
         numbers("the group without a parent again", first, "2 1 -");
         first.setLevel(2, 1);
         numbers("a group of another level", first, "1 2 -");
+        NumberingTree outer = Check.frozenTree(1);
+        outer.remove(0);
+        outer.insert(0, 1);
+        numbers("the group of the outermost level", outer, "2");
+        outer.setGoingOn(1, true);
+        numbers("the outermost level that goes on is another one", outer, "1");
+        outer.freeze();
+        outer.remove(1);
+        outer.insert(0, 1);
+        numbers("the same one with what it used itself", outer, "2");
+        Check.same("used in both", outer.used(), 2);
+    }
+
+    /** As many numbers as can be taken stand in a row. */
+    private static void allThatCanBeTaken() {
+        NumberingTree tree = new NumberingTree();
+        for (int i = 0; i < 59; i++) {
+            tree.insert(i, 1);
+        }
+        tree.startAt(0, 100);
+        tree.freeze();
+        for (int i = 0; i < 59; i++) {
+            tree.remove(i);
+        }
+        for (int number = 1; number <= 99; number++) {
+            Check.same("skip in a row", tree.skip(1, number), number);
+        }
+        tree.insert(0, 1);
+        Check.same("used by removed ones", tree.used(), 59);
+        numbers("behind all that is taken", tree, "159");
+        tree.skip(2, 1);
+        tree.unskip(1, 50);
+        numbers("with one that is not taken", tree, "50");
     }
 
     private static void walkedSameAsKept() {

@@ -182,6 +182,7 @@ public final class StructureTest {
     private static void removeFrozen() {
         Check.refused("remove of a parent of frozen ones", HELD, StructureTest::frozen, t -> t.remove(0));
         Check.refused("remove of another parent of frozen ones", HELD, StructureTest::frozen, t -> t.remove(1));
+        Check.refused("remove of the first before its child", HELD, () -> Check.frozenTree(1, 2), t -> t.remove(0));
         Check.same("remove of a frozen one without children", frozen().remove(2), 6);
         Check.same("remove of a lettered one", frozen().remove(6), 6);
         NumberingTree tree = frozen();
