@@ -64,6 +64,14 @@ public final class NumberTest {
         numbers("numbers of each group", Check.tree(2, 2, 1, 2, 3, 3, 2, 1, 2, 4, 3, 4, 0, 4),
                 "1 2 1 1.1 1.1.1 1.1.2 1.2 2 2.1 2.1.1 2.1.1 2.1.1.1 - 2.1.1.2");
         numbers("one level skipped over", Check.tree(1, 3, 3, 2, 3, 1, 4), "1 1.1 1.2 1.1 1.1.1 2 2.1");
+        NumberingTree last = Check.tree(2, 3, 2);
+        for (int i = 3; i < 59; i++) {
+            last.insert(i, 0);
+        }
+        last.setGoingOn(3, true);
+        last.insert(0, 1);
+        Check.same("the group below the last paragraph", last.ahead(2), 0);
+        Check.same("the group of the next level, which goes on", last.ahead(1), -1);
     }
 
     private static void startAt() {
