@@ -1,37 +1,62 @@
 import java.util.Objects;
 import java.util.function.Consumer;
 import java.util.function.Function;
+import java.util.function.ObjIntConsumer;
 import java.util.function.Supplier;
 
 /** What the tests of the project share: they count what is wrong and end with exit code 1 if anything was. */
 final class Check {
     private static int checked = 0;
     private static int wrong = 0;
+    private static String about = "";
 
     private Check() {
+    }
+
+    /** What the next checks are about; it is printed ahead of each answer that is wrong. */
+    static void about(String sentence) {
+        about = sentence.isEmpty() ? "" : sentence + ": ";
     }
 
     static void same(String what, Object got, Object due) {
         checked++;
         if (!Objects.equals(got, due)) {
             wrong++;
-            System.out.println(what + " answered " + got + ", due is " + due);
+            System.out.println(about + what + " answered " + got + ", due is " + due);
         }
     }
 
     /** The call must throw just this exception, and the object must then answer as one that was not called so. */
     static void refused(String what, Class<? extends RuntimeException> due, Supplier<NumberingTree> maker,
             Consumer<NumberingTree> call) {
-        NumberingTree called = maker.get();
-        same(what, thrownBy(() -> call.accept(called)), due);
-        same(what + ", then", Snapshot.of(called), Snapshot.of(maker.get()));
+        for (Function<NumberingTree, String> part : Snapshot.PARTS) {
+            NumberingTree called = maker.get();
+            same(what, thrownBy(() -> call.accept(called)), due);
+            same(what + ", then", part.apply(called), part.apply(maker.get()));
+        }
+    }
+
+    /** The last values beyond both ends of a range, and the least and the greatest int, must be refused. */
+    static void refusedBeyond(String what, int least, int greatest, Class<? extends RuntimeException> due,
+            Supplier<NumberingTree> maker, ObjIntConsumer<NumberingTree> call) {
+        int[] values = {least - 1, greatest + 1, Integer.MIN_VALUE, Integer.MAX_VALUE};
+        for (int value : values) {
+            refused(what + " with " + value, due, maker, tree -> call.accept(tree, value));
+        }
     }
 
     /** The call must answer this and change nothing. */
     static void asked(String what, Supplier<NumberingTree> maker, Function<NumberingTree, Object> call, Object due) {
-        NumberingTree called = maker.get();
-        same(what, call.apply(called), due);
-        same(what + ", then", Snapshot.of(called), Snapshot.of(maker.get()));
+        for (Function<NumberingTree, String> part : Snapshot.PARTS) {
+            NumberingTree called = maker.get();
+            same(what, call.apply(called), due);
+            same(what + ", then", part.apply(called), part.apply(maker.get()));
+        }
+    }
+
+    /** The call must answer this; what it changes is looked at elsewhere. */
+    static void taken(String what, Supplier<NumberingTree> maker, Function<NumberingTree, Object> call, Object due) {
+        same(what, call.apply(maker.get()), due);
     }
 
     static Class<?> thrownBy(Runnable call) {

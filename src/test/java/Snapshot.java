@@ -1,59 +1,108 @@
-/** All that can be read off an object, in a text; what cannot be asked is found by calls that change it. */
+import java.util.List;
+import java.util.function.Function;
+import java.util.function.Supplier;
+
+/** All that can be read off an object, in parts: an object answers 512 calls, and some parts change it. */
 final class Snapshot {
+    private static final int NAMES = 60;
+
+    static final List<Function<NumberingTree, String>> PARTS = List.of(Snapshot::places, Snapshot::kin,
+            Snapshot::numbers, tree -> labels(tree, 0, 20), tree -> labels(tree, 20, 40),
+            tree -> labels(tree, 40, NAMES), Snapshot::references, Snapshot::told, Snapshot::levels,
+            tree -> skipped(tree, 1), tree -> skipped(tree, 3));
+
     private Snapshot() {
     }
 
-    /** Meant for some ten paragraphs: an object answers 512 calls. The object is spent then. */
-    static String of(NumberingTree tree) {
-        StringBuilder text = new StringBuilder();
-        text.append(Check.labels(tree)).append(" | used ").append(tree.used()).append(" | ");
+    private static String places(NumberingTree tree) {
+        StringBuilder text = new StringBuilder("size " + tree.size() + " used " + tree.used());
+        text.append(" sum ").append(tree.sum()).append(" unique ").append(tree.isUnique());
         for (int place = 0; place < tree.size(); place++) {
             int paragraph = tree.paragraphAt(place);
-            text.append(paragraph).append(':').append(tree.levelOf(paragraph));
-            text.append(tree.isFrozen(paragraph) ? "f " : " ");
+            text.append(" | ").append(paragraph).append(" at ").append(tree.placeOf(paragraph));
+            text.append(" level ").append(tree.levelOf(paragraph));
+            text.append(tree.isFrozen(paragraph) ? " frozen" : "");
         }
-        for (int reference = 0; reference < tree.references(); reference++) {
-            text.append("-> ").append(tree.targetOf(reference));
-            text.append(tree.isBroken(reference) ? " broken " : " " + Check.reference(tree, reference) + " ");
-        }
-        appendHidden(text, tree);
         return text.toString();
     }
 
-    private static void appendHidden(StringBuilder text, NumberingTree tree) {
-        for (int level = 1; level <= 4; level++) {
-            text.append("| level ").append(level).append(' ').append(tree.setFormat(level, 'd')).append(' ');
-            text.append(skippedAmount(tree, level)).append(' ').append(goingOn(tree, level));
+    private static String kin(NumberingTree tree) {
+        StringBuilder text = new StringBuilder();
+        for (int paragraph = 0; paragraph < NAMES; paragraph++) {
+            int name = paragraph;
+            text.append(" | ").append(answer(() -> tree.parentOf(name))).append(' ');
+            text.append(answer(() -> tree.below(name))).append(' ').append(answer(() -> tree.ahead(name)));
         }
-        for (int place = 0; place < tree.size(); place++) {
-            int paragraph = tree.paragraphAt(place);
-            text.append("| start ").append(tree.startAt(paragraph, 0));
-            text.append(" reserved ").append(tree.reserve(paragraph, 0));
-        }
-        text.append("| next ").append(nextName(tree));
+        return text.toString();
     }
 
-    private static String skippedAmount(NumberingTree tree, int level) {
-        try {
-            return "" + (tree.skip(level, 99) - 1);
-        } catch (IllegalStateException e) {
-            return tree.unskip(level, 99) + " and 99";
+    private static String numbers(NumberingTree tree) {
+        StringBuilder text = new StringBuilder();
+        for (int paragraph = 0; paragraph < NAMES; paragraph++) {
+            int name = paragraph;
+            text.append(" | ").append(answer(() -> tree.numberOf(name))).append(' ');
+            text.append(answer(() -> tree.lettersOf(name))).append(' ');
+            text.append(answer(() -> tree.numberByWalk(name))).append(' ');
+            text.append(answer(() -> tree.lettersByWalk(name)));
         }
+        return text.toString();
     }
 
-    private static String goingOn(NumberingTree tree, int level) {
-        try {
-            return "" + tree.setGoingOn(level, false);
-        } catch (UnsupportedOperationException e) {
-            return "held";
+    private static String labels(NumberingTree tree, int from, int end) {
+        StringBuilder text = new StringBuilder();
+        for (int paragraph = from; paragraph < end; paragraph++) {
+            int name = paragraph;
+            text.append(" | ").append(answer(() -> Check.label(tree, name)));
         }
+        return text.toString();
     }
 
-    private static String nextName(NumberingTree tree) {
+    private static String references(NumberingTree tree) {
+        StringBuilder text = new StringBuilder("broken " + tree.broken());
+        for (int i = 0; i < tree.references(); i++) {
+            int reference = i;
+            text.append(" | ").append(tree.targetOf(reference)).append(' ').append(tree.isBroken(reference));
+            text.append(' ').append(answer(() -> Check.reference(tree, reference)));
+        }
+        return text.toString();
+    }
+
+    /** What is told of paragraphs cannot be asked: it is found by telling something else. */
+    private static String told(NumberingTree tree) {
+        StringBuilder text = new StringBuilder();
+        for (int paragraph = 0; paragraph < NAMES; paragraph++) {
+            int name = paragraph;
+            text.append(" | ").append(answer(() -> tree.startAt(name, 1))).append(' ');
+            text.append(answer(() -> tree.reserve(name, 1)));
+        }
+        return text.toString();
+    }
+
+    private static String levels(NumberingTree tree) {
+        StringBuilder text = new StringBuilder("next " + answer(() -> tree.insert(tree.size(), 0)));
+        for (int i = 1; i <= 4; i++) {
+            int level = i;
+            text.append(" | ").append(tree.setFormat(level, 'd')).append(' ');
+            text.append(answer(() -> tree.setGoingOn(level, false)));
+        }
+        return text.toString();
+    }
+
+    private static String skipped(NumberingTree tree, int first) {
+        StringBuilder text = new StringBuilder();
+        for (int i = 0; i < 2 * 99; i++) {
+            int level = first + i / 99;
+            int number = 1 + i % 99;
+            text.append(' ').append(answer(() -> tree.skip(level, number)));
+        }
+        return text.toString();
+    }
+
+    private static String answer(Supplier<Object> question) {
         try {
-            return "" + tree.insert(tree.size(), 0);
-        } catch (IllegalStateException e) {
-            return "none";
+            return "" + question.get();
+        } catch (RuntimeException e) {
+            return e.getClass().getSimpleName();
         }
     }
 }
