@@ -117,7 +117,7 @@ public final class LabelTest {
             tree.reserve(tree.insert(2 + i, 2), 20);
         }
         int last = -1;
-        for (int round = 0; round < 14; round++) {
+        for (int round = 0; round < 10; round++) {
             if (last >= 0) {
                 tree.reserve(last, 20);
                 for (int i = 15; i < 36; i++) {
@@ -127,8 +127,8 @@ public final class LabelTest {
             last = tree.insert(tree.placeOf(1 + round) + 1, 2);
             tree.freeze();
         }
-        Check.same("small Roman beyond 3999", tree.numberOf(last), 1 + 14 * 420 + 13 * 21);
-        Check.same("label beyond 3999", Check.label(tree, last), "15.mmmmmmcliv");
+        Check.same("small Roman beyond 3999", tree.numberOf(last), 1 + 10 * 420 + 9 * 21);
+        Check.same("label beyond 3999", Check.label(tree, last), "11.mmmmcccxc");
     }
 
     private static void zero() {

@@ -20,6 +20,7 @@ public final class NumberTest {
         freezeBelowLettered();
         freezeThatRenumbers();
         betweenFrozen();
+        betweenFrozenWithSkipped();
         usedNumbers();
         groupsKeepTheirUsed();
         allThatCanBeTaken();
@@ -298,7 +299,19 @@ public final class NumberTest {
         numbers("between two with free numbers", tree, "1 1A 1B 2 2A 3 4 5 5A 5B 6");
         tree.skip(1, 1);
         numbers("0 where there is none ahead", tree, "0A 0B 0C 2 2A 3 4 5 5A 5B 6");
+    }
+
+    private static void betweenFrozenWithSkipped() {
+        NumberingTree tree = Check.tree(1, 1, 1);
+        tree.startAt(0, 2);
+        tree.startAt(2, 6);
+        tree.freeze();
+        tree.skip(1, 1);
         tree.skip(1, 5);
+        int[] places = {0, 1, 2, 4, 6, 7, 8, 9};
+        for (int place : places) {
+            tree.insert(place, 1);
+        }
         numbers("with a skipped one between two", tree, "0A 0B 0C 2 2A 3 4 4A 4B 4C 6");
         tree.insert(11, 1);
         numbers("behind the last", tree, "0A 0B 0C 2 2A 3 4 4A 4B 4C 6 7");
